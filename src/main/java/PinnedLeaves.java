@@ -663,22 +663,21 @@ public final class PinnedLeaves {
             return NONE;
         }
 
-        int lowestHere() {
+        int lowestBesides(int leaving) {
             for (int child = 0; child < CHILDREN; child++) {
-                if (isHere(child)) {
+                if (child != leaving && isHere(child)) {
                     return child;
                 }
             }
             return NONE;
         }
 
+        /** An empty place has no bell and no heap, but the numbers of the child who was there. */
         void fillPlace(int child) {
             here.put(child, 1);
-            cameInAt.put(child, NONE);
             tookOff.put(child, 0);
             burnt.put(child, 0);
             rakings.put(child, 0);
-            heapSize.put(child, 0);
         }
 
         void emptyPlace(int child) {
@@ -865,8 +864,7 @@ public final class PinnedLeaves {
 
         int removeChild(int child) {
             int size = children.heapSize.get(child);
-            children.here.put(child, 0);
-            int heir = children.lowestHere();
+            int heir = children.lowestBesides(child);
             for (int place = 0; place < size; place++) {
                 int leaf = children.leafOnHeap(child, place);
                 children.putOnHeap(heir, leaf);

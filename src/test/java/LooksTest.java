@@ -36,7 +36,9 @@ public final class LooksTest {
         x.ring();
         x.grow(3, 6);
         leafIs("on a branch", x, 0, 6, 0, 3, NONE, NONE, 0, 0, 0);
-        Due.orders(x, "e0;e2;n00d;n01d;n20d;n21d;n22d;p00;p20;p21");
+        Due.orders(x, "e0;e2;n00d");
+        leafIs("noted", x, 0, 6, 0, 3, NONE, NONE, 0, 0, 1);
+        Due.orders(x, "n01d;n20d;n21d;n22d;p00;p20;p21");
         leafIs("noted and pinned", x, 0, 6, 0, 3, NONE, NONE, 5, 3, 2);
         x.take(2, 3);
         leafIs("aside", x, 0, 6, 1, 3, 1, 2, 5, 3, 2);

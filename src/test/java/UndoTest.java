@@ -4,6 +4,7 @@ public final class UndoTest {
         keepAndGoBack();
         snapshotStays();
         undo();
+        regrownLeaf();
         onlyUndoableCallsSave();
         savesThoughNothingChanges();
         Due.end("UndoTest");
@@ -99,6 +100,29 @@ public final class UndoTest {
         Due.is("promise 22: saved states", x.count(15), 2);
         x.undo();
         Due.is("promise 22: all is as it was", x.digest(), before);
+    }
+
+    /** The number of a leaf is given again behind undo; the snapshot knows the leaf that had it first. */
+    private static void regrownLeaf() {
+        PinnedLeaves x = new PinnedLeaves();
+        x.grow(0, 5);
+        x.keep();
+        x.undo();
+        x.grow(1, 7);
+        x.goBack();
+        Due.is("promise 21: colour", x.leaf(0, 0), 5);
+        Due.is("promise 21: branch", x.leaf(0, 2), 0);
+        Due.is("promise 21: branch", x.branch(1), -1);
+        x.undo();
+        Due.is("promise 22: colour", x.leaf(0, 0), 7);
+        Due.is("promise 22: branch", x.leaf(0, 2), 1);
+        x.set(1, 1);
+        x.goBack();
+        Due.is("promise 21: setting 1", x.setting(1), 0);
+        x.undo();
+        Due.is("promise 22: setting 1", x.setting(1), 1);
+        x.undo();
+        Due.is("promise 22: setting 1", x.setting(1), 0);
     }
 
     private static void saves(String what, PinnedLeaves x, Due.Call call) {

@@ -51,6 +51,9 @@ public final class WhatWouldBeTest {
         Due.is("promise 32: by the bell", x.bestRake(), NONE);
         Due.orders(x, "b;z0;z1;z2;b");
         Due.is("promise 32: by the bell, of two alike the lowest", x.bestRake(), 1);
+        PinnedLeaves y = new PinnedLeaves();
+        Due.orders(y, "ga1;gb2;e0;e1;t0a;t1b");
+        Due.is("promise 32: child 0 is the lowest", y.bestRake(), 0);
     }
 
     private static void ifLoosened() {
@@ -136,6 +139,8 @@ public final class WhatWouldBeTest {
         Due.is("promise 37: most hooks", x.mostHeld(), 2);
         x.take(0, 2);
         Due.is("promise 37: also aside", x.mostHeld(), 2);
+        Due.orders(x, "n11a;n12a;p11;p12");
+        Due.is("promise 37: leaf 0 is the lowest", x.mostHeld(), 0);
     }
 
     private static void shares() {
