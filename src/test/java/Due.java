@@ -4,10 +4,34 @@ final class Due {
         void run();
     }
 
+    interface CallWith {
+        void run(int number);
+    }
+
+    /** Far from every range; times 3 or 120 some of them come back among the small numbers, as do 32 and 33 as shifts. */
+    private static final int[] FAR = {Integer.MIN_VALUE, -1000, 32, 33, 999, 35791395, 715827883, 1 << 30, 1431655765,
+        1431655766, Integer.MAX_VALUE};
+
     private static int wrong;
     private static int looked;
+    private static String within = "";
 
     private Due() {
+    }
+
+    /** One sentence of the document with its own test; a test that is broken off, or looks at nothing, is told. */
+    static void sentence(String promise, String words, Call test) {
+        within = promise + ", \"" + words + "\": ";
+        int before = looked;
+        try {
+            test.run();
+        } catch (RuntimeException e) {
+            tell("broken off by " + e);
+        }
+        if (looked == before) {
+            tell("nothing was looked at");
+        }
+        within = "";
     }
 
     static void is(String what, long got, long due) {
@@ -61,6 +85,37 @@ final class Due {
         fails(x, IllegalStateException.class, what, call);
     }
 
+    /** The call throws IndexOutOfBoundsException for each number that is not from least to most. */
+    static void indexOutside(PinnedLeaves x, String what, int least, int most, CallWith call) {
+        failsOutside(x, IndexOutOfBoundsException.class, what, least, most, call);
+    }
+
+    static void argumentOutside(PinnedLeaves x, String what, int least, int most, CallWith call) {
+        failsOutside(x, IllegalArgumentException.class, what, least, most, call);
+    }
+
+    private static void failsOutside(PinnedLeaves x, Class<? extends RuntimeException> due, String what, int least,
+            int most, CallWith call) {
+        for (int number : new int[] {least - 2, least - 1, most + 1, most + 2}) {
+            fails(x, due, what + " with " + number, () -> call.run(number));
+        }
+        for (int number : FAR) {
+            if (number < least || number > most) {
+                fails(x, due, what + " with " + number, () -> call.run(number));
+            }
+        }
+    }
+
+    /** The call saves one state, and undo restores all that was before it. */
+    static void undoable(PinnedLeaves x, String what, Call call) {
+        long before = x.digest();
+        int saved = x.count(15);
+        call.run();
+        is("states saved by " + what, x.count(15), saved + 1);
+        is("undo after " + what, x.undo(), saved);
+        is("digest after undo of " + what, x.digest(), before);
+    }
+
     static void write(PinnedLeaves x, String text) {
         x.clearBuffer();
         for (int at = 0; at < text.length(); at++) {
@@ -77,7 +132,7 @@ final class Due {
     static void tell(String what) {
         wrong++;
         if (wrong <= 40) {
-            System.out.println(what);
+            System.out.println(within + what);
         }
     }
 
