@@ -30,6 +30,10 @@ public final class DigestTest {
         is("one has left", x, 1);
         x.undo();
         is("undo", x, 1);
+        Due.orders(x, "z0;z1;b;b");
+        Due.is("by the bell, one heap would be burnt", x.ifRaked(0, 1), x.child(0, 4));
+        Due.is("by the bell, the other one not", x.ifRaked(1, 1), 0);
+        is("two bells later", x, 1);
     }
 
     /** All shares that can be, as their bits are computed without the library. */
